@@ -85,7 +85,7 @@ public final class TarForms {
     }
 
     public int number(int what, long v) {
-        if (what < 0 || what >= LEAST.length || v < LEAST[what] || v > MOST[what]) {
+        if (what < MODE || what > NANOS || v < LEAST[what] || v > MOST[what]) {
             return BAD;
         }
         draft().numbers[what] = v;

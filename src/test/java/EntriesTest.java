@@ -106,6 +106,9 @@ public final class EntriesTest {
         due("name: 0 at its end", x.cut(3), 1);
         due("name with 0 at its end", x.name(false), -2);
         x.cut(0);
+        Calls.tape(x, "\0ab");
+        due("name with 0 at its begin", x.name(false), -2);
+        x.cut(0);
         Calls.tape(x, Calls.text('n', 401));
         due("name of 401", x.name(false), -2);
         due("link of 401", x.name(true), -2);
@@ -240,7 +243,12 @@ public final class EntriesTest {
         due("clear: no NAME", x.entry(48, 0, 0), -2);
         x.name(false);
         due("clear: entry", x.entry(48, 0, 0), 0);
+        due("clear: what ENTRIES had does not come back", x.entry(48, 0, 0), -2);
         checkFirstNumbers("clear", x);
+        x.clear();
+        Calls.link(x, "l");
+        x.clear();
+        due("clear: no LINK", Calls.file(x, "f", 0, 0), 0);
     }
 
     private static int bestOf(int kind, String name, String link) {

@@ -76,6 +76,13 @@ public final class FoundTest {
         CHECK.due("LINK", Calls.letters(x, 0, true), "link");
         x.read(false);
         due("gone", x.found(0, 0), NONE);
+        Calls.linkEntry(x, 49, "n", "l");
+        x.write(0, false);
+        x.read(false);
+        CHECK.due("NAME of another read", Calls.letters(x, 0, false), "n");
+        CHECK.due("LINK of another read", Calls.letters(x, 0, true), "l");
+        x.trim(0);
+        x.read(false);
         due("letter gone", x.letter(0, false, 0), -1);
     }
 
@@ -171,6 +178,8 @@ public final class FoundTest {
         due("for all, first", x.found(0, 2), 1);
         due("for all, later", x.found(1, 2), 2);
         due("TIME of the field", x.found(1, 5), 7);
+        x = read(Raw.begin().head(ROWS_FOR_ALL, "g", Raw.row("uid", "0")).head(FILE, "a").put(108, "5"));
+        due("for all: a 0", x.found(0, 2), 0);
         raw = Raw.begin().head(ROWS, "x", Raw.row("uid", "1") + Raw.row("gid", "1"))
             .head(ROWS, "x", Raw.row("uid", "2")).head(ROWS_FOR_ALL, "g", Raw.row("gid", "3"))
             .head(FILE, "a").head(FILE, "b").put(108, "5");
@@ -233,6 +242,7 @@ public final class FoundTest {
         due("50 in ../.. : 0 at least", unsafe(SOFT, "../../d/a", "../.."), 10);
         due("50 in d/ : the last part is empty", unsafe(SOFT, "d/a/", "../.."), 0);
         due("50 whose last part is ..", unsafe(SOFT, "d/..", ".."), 2);
+        due("50 in /..", unsafe(SOFT, "/../a", ".."), 11);
         due("50 in /d", unsafe(SOFT, "/d/a", ".."), 1);
         due("50 to ...", unsafe(SOFT, "a", ".../.."), 0);
     }

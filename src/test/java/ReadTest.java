@@ -6,6 +6,7 @@ public final class ReadTest {
     public static void main(String[] args) {
         told();
         left();
+        wholeOfHeads();
         zeroBlocks();
         endsWithOn();
         sums();
@@ -74,6 +75,18 @@ public final class ReadTest {
         due("511 bytes of an end", file().zeros(511), 1, 2, 512);
         due("a byte behind", file().zeros(1), 1, 2, 512);
         due("no byte left, with ON", file().load(), true, 1, 1, 512);
+    }
+
+    private static void wholeOfHeads() {
+        TarForms x = new TarForms();
+        for (int i = 0; i < 32; i++) {
+            x.write(0, true);
+        }
+        for (int p = 0; p < 32768; p += 512) {
+            x.poke(p + 156, ROWS_FOR_ALL);
+            x.sum(p);
+        }
+        due("64 HEADS and no end", x, false, 0, 1, 32768);
     }
 
     private static void zeroBlocks() {
@@ -262,6 +275,9 @@ public final class ReadTest {
         wrongRow("without digits", " a=b\n", 0);
         wrongRow("with a letter first", "x6 a=b\n", 0);
         wrongRow("with five digits", "00010 a=b\n", 0);
+        wrongRow("with 58 as a digit", "0: a=bcde\n", 0);
+        wrongRow("with 47 as a digit", "1/ a=bcd\n", 0);
+        due("ROW with its 10 behind DATA", Raw.begin().head(ROWS, "x", "7 a=b \n").put(124, "6").end(), 0, 8, 512);
         wrongRow("without 32", "6=a=b\n", 0);
         wrongRow("of digits alone", "12", 0);
         wrongRow("of digits and 32 alone", "3 ", 0);
@@ -413,11 +429,13 @@ public final class ReadTest {
         due("41", files(41).end(), 40, 10, 40 * 512);
         due("41 without NAME", files(40).head(FILE, "").end(), 40, 10, 40 * 512);
         due("41 without DATA", files(41).put(124, "1").trim(41 * 512), 40, 7, 40 * 512);
+        due("41, and more behind", files(42).head('?', "a").end(), 40, 10, 40 * 512);
         due("40, and something told ahead", files(40).head(ROWS, "x", "6 a=b\n").end(), 40, 0, 0);
     }
 
     private static void noName() {
         due("no NAME", file().head(FILE, "").end(), 1, 11, 512);
+        due("no NAME, and more behind", file().head(FILE, "").head(FILE, "b").end(), 1, 11, 512);
         due("no NAME, but told", Raw.begin().head(LONG_NAME, "L", "n").head(FILE, "").end(), 1, 0, 0);
         due("no NAME, but FRONT", Raw.begin().head(FILE, "").put(345, "f").ustar().end(), 1, 0, 0);
         due("no NAME, FRONT without MAGIC", Raw.begin().head(FILE, "").put(345, "f").end(), 0, 11, 0);
@@ -453,6 +471,14 @@ public final class ReadTest {
         CHECK.due("no byte left is no end", x.told(3), 0);
         x.trim(512);
         due("what was told ahead is gone with the next read", x, false, 1, 1, 512);
+        CHECK.due("NAME by the next read", Calls.letters(x, 0, false), "a");
+        x = Raw.begin().head(ROWS_FOR_ALL, "g", Raw.row("uid", "7")).head(FILE, "a").end().load();
+        x.read(false);
+        CHECK.due("UID for all", x.found(0, 2), 7);
+        x.poke(156, ROWS_FOR_ALL ^ FILE);
+        x.sum(0);
+        due("what was told for all is gone, too", x, false, 2, 0, 0);
+        CHECK.due("UID by the next read", x.found(1, 2), 0);
     }
 
     private static void orderOfFaults() {

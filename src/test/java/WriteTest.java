@@ -24,6 +24,7 @@ public final class WriteTest {
         refusals();
         behind();
         full();
+        fullWithRowsAhead();
         CHECK.close();
     }
 
@@ -159,7 +160,7 @@ public final class WriteTest {
     }
 
     private static void links() {
-        String name = Calls.text('n', 100);
+        String name = Calls.text('n', 50) + "/" + Calls.text('n', 49);
         String link = Calls.text('l', 100);
         for (int family = 0; family < 4; family++) {
             int f = family;
@@ -256,6 +257,7 @@ public final class WriteTest {
     private static void extendedTimes() {
         time(-2, 500000000, "-1.5");
         time(-1, 500000000, "-0.5");
+        time(-1, 1, "-0.999999999");
         time(-1, 0, "-1");
         time(-1, 999999999, "-0.000000001");
         time(-10, 900000000, "-9.1");
@@ -386,5 +388,36 @@ public final class WriteTest {
         CHECK.due("FULL in place", y.write(0, false), -3);
         CHECK.due("FULL: all as it was", y.told(4), 1536);
         CHECK.due("FULL: bytes as they were", y.octet(0), 97);
+    }
+
+    /** Fills THE ARCHIVE up to so many BLOCKS, then writes one link behind. */
+    private static int writeLinkBehind(int blocks, int family, int nameLetters, int linkLetters) {
+        TarForms x = new TarForms();
+        while (x.told(4) < blocks * 512) {
+            x.write(0, true);
+        }
+        x.trim(blocks * 512);
+        Calls.linkEntry(x, 50, Calls.text('n', nameLetters), Calls.text('l', linkLetters));
+        int answer = x.write(family, true);
+        CHECK.due("told(4)", x.told(4), answer < 0 ? blocks * 512 : answer);
+        return answer;
+    }
+
+    private static void dueBlocks(int needed, int family, int nameLetters, int linkLetters) {
+        String what = "family " + family + ", names of " + nameLetters + " and " + linkLetters;
+        int least = 64 - needed;
+        CHECK.due(what + " fit", writeLinkBehind(least, family, nameLetters, linkLetters), 32768);
+        CHECK.due(what + " fit not", writeLinkBehind(least + 1, family, nameLetters, linkLetters), -3);
+    }
+
+    private static void fullWithRowsAhead() {
+        dueBlocks(3, 2, 100, 100);
+        dueBlocks(3, 3, 100, 100);
+        dueBlocks(5, 2, 101, 100);
+        dueBlocks(5, 2, 101, 101);
+        dueBlocks(6, 2, 400, 400);
+        dueBlocks(5, 3, 101, 100);
+        dueBlocks(5, 3, 100, 101);
+        dueBlocks(7, 3, 400, 400);
     }
 }
