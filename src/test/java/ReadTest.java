@@ -170,6 +170,7 @@ public final class ReadTest {
             int width = at == 136 ? 12 : 8;
             field("none", at, "", 0);
             field("spaces", at, Calls.text(' ', width), 0);
+            field("spaces up to the next field and on", at, Calls.text(' ', width + 1), 0);
             field("octal", at, "0000017\0", 15);
             field("spaces ahead", at, "   17 \0 ", 15);
             field("all digits", at, Calls.text('7', width), (1L << 3 * width) - 1);
