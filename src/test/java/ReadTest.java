@@ -255,7 +255,8 @@ public final class ReadTest {
         due("SIZE of a ROW, greater", greater.end(), 0, 7, 1024);
         Raw most = Raw.begin().head(ROWS, "x", Raw.row("size", "999999999999999999")).head(FILE, "a");
         due("SIZE of a ROW, greatest", most.end(), 0, 7, 1024);
-        Raw all = Raw.begin().head(ROWS_FOR_ALL, "g", Raw.row("size", "513")).head(ROWS, "x").head(FILE, "a").zeros(1024);
+        Raw all = Raw.begin().head(ROWS_FOR_ALL, "g", Raw.row("size", "513")).head(ROWS, "x").head(FILE, "a");
+        all.zeros(1024);
         due("SIZE of a ROW for all is of ENTRIES alone", all.end(), 1, 0, 0);
     }
 

@@ -1,13 +1,9 @@
 import java.math.BigDecimal;
-import java.math.BigInteger;
 import java.util.function.Supplier;
 
 /** Promise 9: what is WRITTEN is compared byte by byte with heads made by the Java library. */
 public final class WriteTest {
     private static final Check CHECK = new Check();
-    private static final String[] MAGIC = {
-        "\0\0\0\0\0\0\0\0", "ustar\0" + "00", "ustar\0" + "00", "ustar  \0"
-    };
     private static final long HUGE = 1L << 55;
 
     public static void main(String[] args) {
@@ -28,92 +24,9 @@ public final class WriteTest {
         CHECK.close();
     }
 
-    // ---- what is due, told once more
-
-    private static String octal(long v, int width) {
-        return String.format("%0" + (width - 1) + "o", v) + "\0";
-    }
-
-    private static String by256(long v, int width) {
-        BigInteger all = BigInteger.valueOf(v);
-        if (v < 0) {
-            all = all.add(BigInteger.ONE.shiftLeft(8 * (width - 1)));
-        }
-        StringBuilder out = new StringBuilder();
-        for (int i = width - 2; i >= 0; i--) {
-            out.append((char) all.shiftRight(8 * i).and(BigInteger.valueOf(255)).intValue());
-        }
-        return (v < 0 ? "\377" : "\200") + out;
-    }
-
-    private static String padded(String text, int width) {
-        return text + "\0".repeat(width - text.length());
-    }
-
-    /** UID, GID and TIME come as they stand in their fields. */
-    private static String head(String name, int mode, String numbers, int size, String kindAndLink, int family) {
-        return headWithFront(name, mode, numbers, size, kindAndLink, family, "");
-    }
-
-    private static String headWithFront(
-            String name, int mode, String numbers, int size, String kindAndLink, int family, String front) {
-        String uidGid = numbers.substring(0, 16);
-        String time = numbers.substring(16);
-        String before = padded(name, 100) + octal(mode, 8) + uidGid + octal(size, 12) + time;
-        String behind = padded(kindAndLink, 101) + padded(MAGIC[family], 88) + padded(front, 167);
-        int sum = 8 * 32;
-        for (char c : (before + behind).toCharArray()) {
-            sum += c;
-        }
-        String whole = before + String.format("%06o", sum) + "\0 " + behind;
-        CHECK.due("length of a due head", whole.length(), 512);
-        return whole;
-    }
-
-    private static String numbers(long uid, long gid, long time) {
-        return octal(uid, 8) + octal(gid, 8) + octal(time, 12);
-    }
-
-    private static String blocks(String data) {
-        return data + "\0".repeat((512 - data.length() % 512) % 512);
-    }
-
-    private static String data(int size, int seed) {
-        StringBuilder out = new StringBuilder();
-        for (int i = 0; i < size; i++) {
-            int h = (seed + i) * 0x9E3779B1;
-            out.append((char) ((h ^ (h >>> 15)) & 255));
-        }
-        return blocks(out.toString());
-    }
-
-    private static final String END = "\0".repeat(1024);
-
-    private static String rowsAhead(String rows) {
-        return head("PaxHeader", 420, numbers(0, 0, 0), rows.length(), "x", 2) + blocks(rows);
-    }
-
-    private static String longAhead(int kind, String text) {
-        String name = "././@LongLink";
-        return head(name, 420, numbers(0, 0, 0), text.length() + 1, "" + (char) kind, 3) + blocks(text + "\0");
-    }
-
     private static void compare(String what, Supplier<TarForms> maker, String due) {
-        String got = Calls.archive(maker);
-        CHECK.due(what + ": length", got.length(), due.length());
-        int place = 0;
-        while (place < got.length() && place < due.length() && got.charAt(place) == due.charAt(place)) {
-            place++;
-        }
-        if (place < Math.max(got.length(), due.length())) {
-            CHECK.due(what + ": first place that differs", place, -1);
-            int end = place + 24;
-            CHECK.due(what + " there", got.substring(place, Math.min(end, got.length())),
-                due.substring(place, Math.min(end, due.length())));
-        }
+        Due.compare(CHECK, what, maker, due);
     }
-
-    // ---- the tests
 
     private static void noEntries() {
         for (int family = 0; family < 4; family++) {
@@ -122,7 +35,7 @@ public final class WriteTest {
                 TarForms x = new TarForms();
                 CHECK.due("write", x.write(f, false), 1024);
                 return x;
-            }, END);
+            }, Due.END);
         }
     }
 
@@ -138,7 +51,7 @@ public final class WriteTest {
                 Calls.file(x, "a.txt", 0, 0);
                 CHECK.due("write " + f, x.write(f, false), 1536);
                 return x;
-            }, head("a.txt", 4095, numbers(07777777, 8, 077777777777L), 0, "0", f) + END);
+            }, Due.head("a.txt", 4095, Due.numbers(07777777, 8, 077777777777L), 0, "0", f) + Due.END);
         }
     }
 
@@ -147,7 +60,7 @@ public final class WriteTest {
         int[] seeds = {0, 7, -1, Integer.MAX_VALUE, Integer.MIN_VALUE};
         StringBuilder due = new StringBuilder();
         for (int i = 0; i < sizes.length; i++) {
-            due.append(head("f" + i, 420, numbers(0, 0, 0), sizes[i], "0", 0)).append(data(sizes[i], seeds[i]));
+            due.append(Due.head("f" + i, 420, Due.ZEROS, sizes[i], "0", 0)).append(Due.data(sizes[i], seeds[i]));
         }
         compare("data", () -> {
             TarForms x = new TarForms();
@@ -156,7 +69,7 @@ public final class WriteTest {
             }
             x.write(0, false);
             return x;
-        }, due + END);
+        }, due + Due.END);
     }
 
     private static void links() {
@@ -170,8 +83,8 @@ public final class WriteTest {
                 Calls.linkEntry(x, 50, "n\377", "\200");
                 x.write(f, false);
                 return x;
-            }, head(name, 420, numbers(0, 0, 0), 0, "1" + link, f)
-                + head("n\377", 420, numbers(0, 0, 0), 0, "2\200", f) + END);
+            }, Due.head(name, 420, Due.ZEROS, 0, "1" + link, f)
+                + Due.head("n\377", 420, Due.ZEROS, 0, "2\200", f) + Due.END);
         }
         for (int family = 1; family < 4; family++) {
             int f = family;
@@ -182,7 +95,7 @@ public final class WriteTest {
                 Calls.file(x, "e/", 0, 0);
                 x.write(f, false);
                 return x;
-            }, head("d/", 420, numbers(0, 0, 0), 0, "5", f) + head("e/", 420, numbers(0, 0, 0), 0, "0", f) + END);
+            }, Due.head("d/", 420, Due.ZEROS, 0, "5", f) + Due.head("e/", 420, Due.ZEROS, 0, "0", f) + Due.END);
         }
     }
 
@@ -205,7 +118,7 @@ public final class WriteTest {
                 Calls.file(x, front + "/" + name, 0, 0);
                 x.write(f, false);
                 return x;
-            }, headWithFront(name, 420, numbers(0, 0, 0), 0, "0", f, front) + END);
+            }, Due.headWithFront(name, 420, Due.ZEROS, 0, "0", f, front) + Due.END);
         }
     }
 
@@ -218,15 +131,16 @@ public final class WriteTest {
             Calls.file(x, "plain", 0, 0);
             x.write(2, false);
             return x;
-        }, rowsAhead(Raw.row("path", name)) + head(name.substring(1), 420, numbers(0, 0, 0), 3, "0", 2) + data(3, 3)
-            + head("plain", 420, numbers(0, 0, 0), 0, "0", 2) + END);
+        }, Due.rowsAhead(Raw.row("path", name))
+            + Due.head(name.substring(1), 420, Due.ZEROS, 3, "0", 2) + Due.data(3, 3)
+            + Due.head("plain", 420, Due.ZEROS, 0, "0", 2) + Due.END);
         compare("linkpath", () -> {
             TarForms x = new TarForms();
             Calls.linkEntry(x, 50, "n", link);
             x.write(2, false);
             return x;
-        }, rowsAhead(Raw.row("linkpath", link))
-            + head("n", 420, numbers(0, 0, 0), 0, "2" + link.substring(0, 100), 2) + END);
+        }, Due.rowsAhead(Raw.row("linkpath", link))
+            + Due.head("n", 420, Due.ZEROS, 0, "2" + link.substring(0, 100), 2) + Due.END);
     }
 
     private static void extendedNumbers() {
@@ -243,7 +157,8 @@ public final class WriteTest {
             Calls.linkEntry(x, 49, name, link);
             CHECK.due("write of all rows", x.write(2, false), 512 * 6);
             return x;
-        }, rowsAhead(rows) + head(name.substring(300), 420, numbers(0, 0, 0), 0, "1" + link.substring(300), 2) + END);
+        }, Due.rowsAhead(rows)
+            + Due.head(name.substring(300), 420, Due.ZEROS, 0, "1" + link.substring(300), 2) + Due.END);
         compare("gid alone", () -> {
             TarForms x = new TarForms();
             x.number(1, 2097151);
@@ -251,7 +166,7 @@ public final class WriteTest {
             Calls.file(x, "n", 0, 0);
             x.write(2, false);
             return x;
-        }, rowsAhead("15 gid=2097152\n") + head("n", 420, numbers(2097151, 0, 0), 0, "0", 2) + END);
+        }, Due.rowsAhead("15 gid=2097152\n") + Due.head("n", 420, Due.numbers(2097151, 0, 0), 0, "0", 2) + Due.END);
     }
 
     private static void extendedTimes() {
@@ -282,7 +197,7 @@ public final class WriteTest {
             Calls.file(x, "t", 0, 0);
             x.write(2, false);
             return x;
-        }, rowsAhead(Raw.row("mtime", value)) + head("t", 420, numbers(0, 0, field), 0, "0", 2) + END);
+        }, Due.rowsAhead(Raw.row("mtime", value)) + Due.head("t", 420, Due.numbers(0, 0, field), 0, "0", 2) + Due.END);
     }
 
     private static void longNames() {
@@ -293,16 +208,20 @@ public final class WriteTest {
             Calls.file(x, name, 0, 0);
             x.write(3, false);
             return x;
-        }, longAhead(76, name) + head(name.substring(0, 100), 420, numbers(0, 0, 0), 0, "0", 3) + END);
+        }, Due.longAhead(76, name) + Due.head(name.substring(0, 100), 420, Due.ZEROS, 0, "0", 3) + Due.END);
         compare("long LINK and NAME", () -> {
             TarForms x = new TarForms();
             Calls.linkEntry(x, 49, name, link);
             Calls.linkEntry(x, 50, "n", link);
             x.write(3, false);
             return x;
-        }, longAhead(75, link) + longAhead(76, name)
-            + head(name.substring(0, 100), 420, numbers(0, 0, 0), 0, "1" + link.substring(300), 3)
-            + longAhead(75, link) + head("n", 420, numbers(0, 0, 0), 0, "2" + link.substring(300), 3) + END);
+        }, Due.longAhead(75, link) + Due.longAhead(76, name)
+            + Due.head(name.substring(0, 100), 420, Due.ZEROS, 0, "1" + link.substring(300), 3)
+            + Due.longAhead(75, link) + Due.head("n", 420, Due.ZEROS, 0, "2" + link.substring(300), 3) + Due.END);
+    }
+
+    private static String by256(long uid, long gid, long time) {
+        return Due.by256(uid, 8) + Due.by256(gid, 8) + Due.by256(time, 12);
     }
 
     private static void longNumbers() {
@@ -316,7 +235,7 @@ public final class WriteTest {
                 Calls.file(x, "n", 0, 0);
                 x.write(3, false);
                 return x;
-            }, head("n", 420, by256(HUGE, 8) + by256(2097152, 8) + by256(time, 12), 0, "0", 3) + END);
+            }, Due.head("n", 420, by256(HUGE, 2097152, time), 0, "0", 3) + Due.END);
         }
     }
 
@@ -351,8 +270,8 @@ public final class WriteTest {
             x.trim(2048);
             CHECK.due("write behind BLOCKS", x.write(0, true), 4096);
             return x;
-        }, END + head("a", 420, numbers(0, 0, 0), 1, "0", 1) + data(1, 1)
-            + head("a", 420, numbers(0, 0, 0), 1, "0", 0) + data(1, 1) + END);
+        }, Due.END + Due.head("a", 420, Due.ZEROS, 1, "0", 1) + Due.data(1, 1)
+            + Due.head("a", 420, Due.ZEROS, 1, "0", 0) + Due.data(1, 1) + Due.END);
     }
 
     private static void full() {
