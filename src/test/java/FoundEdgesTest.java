@@ -64,11 +64,7 @@ public final class FoundEdgesTest {
 
     /** "Of one that was FOUND: 0 .. 11. -9000000000000000000: none such", with n that were FOUND. */
     private static void foundOf(int n) {
-        Raw raw = Raw.begin();
-        for (int i = 0; i < n; i++) {
-            raw.head(0, "a");
-        }
-        TarForms x = read(raw);
+        TarForms x = read(Raw.files(n));
         due("FOUND", x.told(2), n);
         for (int i : new int[] {-1, n, n + 1, 40, 41, MIN, MAX}) {
             for (int what : new int[] {0, 7, 11}) {

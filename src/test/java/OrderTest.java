@@ -65,7 +65,7 @@ public final class OrderTest {
 
     private static void writes() {
         for (int family = -1; family <= 4; family++) {
-            for (int bytes : new int[] {0, 511, 512, 513, 31232, 31744, 32767, 32768}) {
+            for (int bytes : new int[] {0, 511, 512, 513, 26624, 27136, 27648, 28160, 32767, 32768}) {
                 for (int entries = 0; entries < 4; entries++) {
                     write(family, false, bytes, entries);
                     write(family, true, bytes, entries);
@@ -122,10 +122,7 @@ public final class OrderTest {
     // ---- FAULTS
 
     private static void due(String what, Raw raw, int found, int fault, int place) {
-        TarForms x = raw.load();
-        CHECK.due(what + ": read", x.read(false), found);
-        CHECK.due(what + ": FAULT", x.told(0), fault);
-        CHECK.due(what + ": place", x.told(1), place);
+        CHECK.dueRead(what, raw.load(), false, found, fault, place);
     }
 
     private static boolean has(int set, int bit) {
@@ -185,11 +182,7 @@ public final class OrderTest {
             boolean isOneMore = has(set, 4);
             boolean isNameless = has(set, 5);
             int before = isOneMore ? 40 : 3;
-            Raw raw = Raw.begin();
-            for (int i = 0; i < before; i++) {
-                raw.head(0, "a");
-            }
-            raw.head(0, isNameless ? "" : "a");
+            Raw raw = Raw.files(before).head(0, isNameless ? "" : "a");
             int[] others = {isOneMore ? 10 : 11, before * 512};
             dueFirst("an ENTRY with ", spoil(raw, set & 15).end(), before, set, others);
         }

@@ -38,26 +38,15 @@ public final class ReadEdgesTest {
     }
 
     private static void due(String what, TarForms x, boolean on, int found, int fault, int place) {
-        CHECK.due(what + ": read", x.read(on), found);
-        CHECK.due(what + ": FAULT", x.told(0), fault);
-        CHECK.due(what + ": place", x.told(1), place);
-        CHECK.due(what + ": told(2)", x.told(2), found);
+        CHECK.dueRead(what, x, on, found, fault, place);
     }
 
     private static void due(String what, Raw raw, int found, int fault, int place) {
-        due(what, raw.load(), false, found, fault, place);
+        CHECK.dueRead(what, raw.load(), false, found, fault, place);
     }
 
     private static void dueEnds(String what, TarForms x, int ends) {
         CHECK.due(what + ": ends", x.told(3), ends);
-    }
-
-    private static Raw files(int n) {
-        Raw raw = Raw.begin();
-        for (int i = 0; i < n; i++) {
-            raw.head(0, "a");
-        }
-        return raw;
     }
 
     // ---- where a HEAD is to be
@@ -66,7 +55,7 @@ public final class ReadEdgesTest {
     private static void noByteLeft() {
         for (int n : new int[] {0, 1, 2, 40}) {
             for (boolean on : new boolean[] {false, true}) {
-                TarForms x = files(n).load();
+                TarForms x = Raw.files(n).load();
                 due("no byte behind " + n, x, on, n, 1, 512 * n);
                 dueEnds("no byte behind " + n, x, 0);
             }
@@ -77,8 +66,8 @@ public final class ReadEdgesTest {
     private static void fewerThanABlock() {
         for (int left : new int[] {1, 2, 256, 510, 511}) {
             for (int n : new int[] {0, 1, 3}) {
-                due(left + " bytes behind " + n, files(n).zeros(left), n, 2, 512 * n);
-                TarForms x = files(n).head(FILE, "b").trim(512 * n + left).load();
+                due(left + " bytes behind " + n, Raw.files(n).zeros(left), n, 2, 512 * n);
+                TarForms x = Raw.files(n).head(FILE, "b").trim(512 * n + left).load();
                 due(left + " bytes of a HEAD behind " + n, x, true, n, 2, 512 * n);
                 dueEnds(left + " bytes", x, 0);
             }
@@ -88,12 +77,12 @@ public final class ReadEdgesTest {
     /** "if the next one is whole and all 0s, too, that is an end. If the next one is not so: 3 (p)". */
     private static void nextBlockOfZeros() {
         for (int more : new int[] {0, 1, 2, 256, 510, 511}) {
-            TarForms x = files(1).zeros(512 + more).load();
+            TarForms x = Raw.files(1).zeros(512 + more).load();
             due("0s, " + more, x, false, 1, 3, 512);
             due("0s, with ON, " + more, x, true, 1, 3, 512);
             dueEnds("0s, " + more, x, 0);
         }
-        TarForms x = files(1).end().load();
+        TarForms x = Raw.files(1).end().load();
         due("an end", x, false, 1, 0, 0);
         dueEnds("an end", x, 1);
         for (int place : new int[] {1024, 1025, 1280, 1534, 1535}) {
@@ -111,7 +100,7 @@ public final class ReadEdgesTest {
     /** "without ON it is over", whatever is behind. */
     private static void overWithoutOn() {
         for (int more : new int[] {0, 1, 511, 512, 513, 1024}) {
-            TarForms x = files(1).end().zeros(more).load();
+            TarForms x = Raw.files(1).end().zeros(more).load();
             if (more > 0) {
                 x.poke(1536, 1);
             }
@@ -123,7 +112,7 @@ public final class ReadEdgesTest {
     /** "with ON all BLOCKS of 0s behind it are passed over, else it goes on there". */
     private static void blocksPassedOver() {
         for (int more = 0; more <= 5; more++) {
-            TarForms x = files(1).end().zeros(512 * more).head(FILE, "b").end().load();
+            TarForms x = Raw.files(1).end().zeros(512 * more).head(FILE, "b").end().load();
             due(more + " BLOCKS more", x, true, 2, 0, 0);
             dueEnds(more + " BLOCKS more", x, 2);
             CHECK.due("where it goes on", x.found(1, 7), 1536 + 512 * more);
@@ -136,7 +125,7 @@ public final class ReadEdgesTest {
     private static void leftBehindAnEnd() {
         for (int left : new int[] {0, 1, 2, 510, 511, 512, 513}) {
             for (int blocks = 0; blocks <= 2; blocks++) {
-                TarForms x = files(1).end().zeros(512 * blocks + left).load();
+                TarForms x = Raw.files(1).end().zeros(512 * blocks + left).load();
                 int last = 1536 + 512 * blocks + left - 1;
                 if (left > 0) {
                     x.poke(last, 1);
@@ -297,7 +286,7 @@ public final class ReadEdgesTest {
     }
 
     private static void dueData(int kind, int size, int bytes) {
-        Raw raw = files(1).head(kind, "b");
+        Raw raw = Raw.files(1).head(kind, "b");
         if (size > 0) {
             raw.put(124, Integer.toOctalString(size));
         }
@@ -534,8 +523,8 @@ public final class ReadEdgesTest {
     private static void fortyOne() {
         for (int n = 39; n <= 41; n++) {
             boolean isOneMore = n > 40;
-            due(n + " in one", files(n).end(), Math.min(n, 40), isOneMore ? 10 : 0, isOneMore ? 40 * 512 : 0);
-            Raw raw = files(10).end();
+            due(n + " in one", Raw.files(n).end(), Math.min(n, 40), isOneMore ? 10 : 0, isOneMore ? 40 * 512 : 0);
+            Raw raw = Raw.files(10).end();
             for (int i = 10; i < n; i++) {
                 raw.head(0, "a");
             }
@@ -549,7 +538,7 @@ public final class ReadEdgesTest {
 
     /** "THE ARCHIVE is READ: how many were FOUND. (What was FOUND before is gone.)" */
     private static void readAnew() {
-        TarForms x = files(3).end().load();
+        TarForms x = Raw.files(3).end().load();
         due("three", x, false, 3, 0, 0);
         x.poke(512 + 156, '?');
         due("spoilt, but not the SUM", x, false, 1, 4, 512 + 148);

@@ -27,14 +27,11 @@ public final class ReadTest {
     }
 
     private static void due(String what, TarForms x, boolean on, int found, int fault, int place) {
-        CHECK.due(what + ": read", x.read(on), found);
-        CHECK.due(what + ": FOUND", x.told(2), found);
-        CHECK.due(what + ": FAULT", x.told(0), fault);
-        CHECK.due(what + ": place", x.told(1), place);
+        CHECK.dueRead(what, x, on, found, fault, place);
     }
 
     private static void due(String what, Raw raw, int found, int fault, int place) {
-        due(what, raw.load(), false, found, fault, place);
+        CHECK.dueRead(what, raw.load(), false, found, fault, place);
     }
 
     private static Raw file() {
@@ -418,21 +415,13 @@ public final class ReadTest {
         CHECK.due("the later counts: 76", Calls.letters(x, 0, false), "one");
     }
 
-    private static Raw files(int n) {
-        Raw raw = Raw.begin();
-        for (int i = 0; i < n; i++) {
-            raw.head(0, "a");
-        }
-        return raw;
-    }
-
     private static void atMostForty() {
-        due("40", files(40).end(), 40, 0, 0);
-        due("41", files(41).end(), 40, 10, 40 * 512);
-        due("41 without NAME", files(40).head(FILE, "").end(), 40, 10, 40 * 512);
-        due("41 without DATA", files(41).put(124, "1").trim(41 * 512), 40, 7, 40 * 512);
-        due("41, and more behind", files(42).head('?', "a").end(), 40, 10, 40 * 512);
-        due("40, and something told ahead", files(40).head(ROWS, "x", "6 a=b\n").end(), 40, 0, 0);
+        due("40", Raw.files(40).end(), 40, 0, 0);
+        due("41", Raw.files(41).end(), 40, 10, 40 * 512);
+        due("41 without NAME", Raw.files(40).head(FILE, "").end(), 40, 10, 40 * 512);
+        due("41 without DATA", Raw.files(41).put(124, "1").trim(41 * 512), 40, 7, 40 * 512);
+        due("41, and more behind", Raw.files(42).head('?', "a").end(), 40, 10, 40 * 512);
+        due("40, and something told ahead", Raw.files(40).head(ROWS, "x", "6 a=b\n").end(), 40, 0, 0);
     }
 
     private static void noName() {
@@ -491,6 +480,6 @@ public final class ReadTest {
         due("DATA ahead of NAME", Raw.begin().head(FILE, "").put(124, "77777").end(), 0, 7, 0);
         due("DATA ahead of ROWS", Raw.begin().head(ROWS, "x", "bad").put(124, "77777").end(), 0, 7, 0);
         due("the first ROW", rows(Raw.row("uid", "x") + "bad"), 0, 9, 512 + 6);
-        due("what was FOUND stands", files(3).head('?', "a").end(), 3, 6, 3 * 512 + 156);
+        due("what was FOUND stands", Raw.files(3).head('?', "a").end(), 3, 6, 3 * 512 + 156);
     }
 }

@@ -23,6 +23,14 @@ public final class Check {
         due(what, holds ? 1 : 0, 1);
     }
 
+    /** Reads THE ARCHIVE; how many are to be FOUND, and the FAULT with its place. */
+    public void dueRead(String what, TarForms x, boolean on, int found, int fault, int place) {
+        due(what + ": read", x.read(on), found);
+        due(what + ": FAULT", x.told(0), fault);
+        due(what + ": place", x.told(1), place);
+        due(what + ": FOUND", x.told(2), found);
+    }
+
     public void close() {
         System.out.println(seen + " answers, " + wrong + " not as due");
         if (wrong != 0 || seen == 0) {

@@ -10,6 +10,15 @@ public final class Raw {
         return new Raw();
     }
 
+    /** So many HEADS of files, each with as few bytes as can be. */
+    public static Raw files(int n) {
+        Raw raw = begin();
+        for (int i = 0; i < n; i++) {
+            raw.head(0, "a");
+        }
+        return raw;
+    }
+
     /** A HEAD with DATA behind it, filled to BLOCKS. */
     public Raw head(int kind, String name, String data) {
         head = bytes.length();
