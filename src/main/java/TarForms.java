@@ -146,7 +146,7 @@ public final class TarForms {
             return FULL;
         }
         archive.keep(start);
-        for (int i = 0; i < entryCount; i++) {
+        for (int i = 0; i < entryCount && i < slots.length; i++) {
             writer.append(slots[i], family);
         }
         archive.addZeros(2 * BLOCK);
@@ -216,7 +216,7 @@ public final class TarForms {
 
     /** The first ENTRY that is not OF the FAMILY, or how many ENTRIES there are. */
     private int firstNotOf(int family) {
-        for (int i = 0; i < entryCount; i++) {
+        for (int i = 0; i < entryCount && i < slots.length; i++) {
             if (!slots[i].isOf(family)) {
                 return i;
             }
@@ -226,7 +226,7 @@ public final class TarForms {
 
     private int lengthWritten(int family) {
         int length = 2 * BLOCK;
-        for (int i = 0; i < entryCount; i++) {
+        for (int i = 0; i < entryCount && i < slots.length; i++) {
             length += writer.lengthOf(slots[i], family);
         }
         return length;
@@ -473,12 +473,8 @@ public final class TarForms {
         }
 
         private boolean isPlain() {
-            return link.count() <= NAME_FIELD && isFitting(UID, SHORT_FIELD)
-                && isFitting(GID, SHORT_FIELD) && isFitting(TIME, WIDE_FIELD) && numbers[NANOS] == 0;
-        }
-
-        boolean isFitting(int what, int width) {
-            return fits(numbers[what], width);
+            return link.count() <= NAME_FIELD && fits(numbers[UID], SHORT_FIELD)
+                && fits(numbers[GID], SHORT_FIELD) && fits(numbers[TIME], WIDE_FIELD) && numbers[NANOS] == 0;
         }
 
         static boolean fits(long v, int width) {
@@ -651,13 +647,13 @@ public final class TarForms {
             if (e.link.count() > NAME_FIELD) {
                 addRow("linkpath", e.link);
             }
-            if (!e.isFitting(UID, SHORT_FIELD)) {
+            if (!Entry.fits(e.numbers[UID], SHORT_FIELD)) {
                 addNumberRow("uid", e.numbers[UID]);
             }
-            if (!e.isFitting(GID, SHORT_FIELD)) {
+            if (!Entry.fits(e.numbers[GID], SHORT_FIELD)) {
                 addNumberRow("gid", e.numbers[GID]);
             }
-            if (!e.isFitting(TIME, WIDE_FIELD) || e.numbers[NANOS] != 0) {
+            if (!Entry.fits(e.numbers[TIME], WIDE_FIELD) || e.numbers[NANOS] != 0) {
                 makeTime(e.numbers[TIME], (int) e.numbers[NANOS]);
                 addRow("mtime", value);
             }
